@@ -1,15 +1,6 @@
-import java.util.NoSuchElementException;
-
 /** Promises 1 to 14. In a free net a packet of n bodies and d steps takes 2 + n + d beats. */
-public final class PacketTests {
-    private static final Class<IndexOutOfBoundsException> NO_SUCH = IndexOutOfBoundsException.class;
-    private static final Class<IllegalArgumentException> OFF_RANGE = IllegalArgumentException.class;
-    private static final Class<IllegalStateException> NO_ROOM = IllegalStateException.class;
-    private static final Class<NoSuchElementException> NONE = NoSuchElementException.class;
+public final class PacketTests extends Check {
     private static final int[] NO_NODES = {-1, 16, Integer.MIN_VALUE, Integer.MAX_VALUE};
-
-    private PacketTests() {
-    }
 
     public static void main(String[] args) {
         promise1NewObject();
@@ -29,178 +20,155 @@ public final class PacketTests {
         promise13Lying();
         promise14Receive();
         noSuchPacket();
-        Check.end("PacketTests");
-    }
-
-    static Meshyard yard(int width, int height) {
-        Meshyard yard = new Meshyard();
-        yard.net(width, height);
-        return yard;
-    }
-
-    /** A yard of 2 nodes with as many packets made, all from 0 to 1. */
-    static Meshyard filled(int packets) {
-        Meshyard yard = yard(2, 1);
-        for (int i = 0; i < packets; i++) {
-            yard.send(0, 1, i, 1);
-        }
-        return yard;
+        end("PacketTests");
     }
 
     private static void promise1NewObject() {
         Meshyard yard = new Meshyard();
-        Check.same("packets at first", 0, yard.packets());
-        Check.same("beats at first", 0, yard.beat());
-        Check.same("the way at first", 'x', yard.way('x'));
-        Check.same("places at first", 2, yard.places(2));
-        Check.same("the last node is there", 0, yard.memory(15, 7));
-        Check.raises("node 16 is not", NO_SUCH, yard, () -> yard.memory(16, 0));
-        Check.same("node 3 has no link e", UnsupportedOperationException.class, thrownByFail(yard, 3, 'e'));
-        Check.same("node 3 has a link s", false, yard.fail(3, 's', false));
-        Check.same("node 12 has no link s", UnsupportedOperationException.class, thrownByFail(yard, 12, 's'));
+        same("packets at first", 0, yard.packets());
+        same("beats at first", 0, yard.beat());
+        same("the way at first", 'x', yard.way('x'));
+        same("places at first", 2, yard.places(2));
+        same("the last node is there", 0, yard.memory(15, 7));
+        raises("node 16 is not", NO_SUCH, yard, () -> yard.memory(16, 0));
+        raises("node 3 has no link e", CANNOT, yard, () -> yard.fail(3, 'e', true));
+        same("node 3 has a link s", false, yard.fail(3, 's', false));
+        raises("node 12 has no link s", CANNOT, yard, () -> yard.fail(12, 's', true));
         for (int node = 0; node < 16; node++) {
-            Check.same("core at first", '-', yard.core(node));
-            Check.isTrue("awake at first", yard.isAwake(node));
+            same("core at first", '-', yard.core(node));
+            isTrue("awake at first", yard.isAwake(node));
         }
-        Check.same("two objects share nothing", 0, new Meshyard().set(3, 3, 5));
-        Check.same("two objects share nothing", 0, yard.memory(3, 3));
-    }
-
-    private static Object thrownByFail(Meshyard yard, int node, char direction) {
-        try {
-            return yard.fail(node, direction, false);
-        } catch (RuntimeException e) {
-            return e.getClass();
-        }
+        same("two objects share nothing", 0, new Meshyard().set(3, 3, 5));
+        same("two objects share nothing", 0, yard.memory(3, 3));
     }
 
     private static void promise2Send() {
         for (int bodies = 1; bodies <= 4; bodies++) {
             for (int goal = 0; goal < 4; goal++) {
                 Meshyard yard = yard(4, 1);
-                Check.same("its number", 0, yard.send(0, goal, Integer.MIN_VALUE, bodies));
+                same("its number", 0, yard.send(0, goal, Integer.MIN_VALUE, bodies));
                 yard.beats(1 + bodies + goal);
-                Check.same("not yet there", 'w', yard.state(0));
+                same("not yet there", 'w', yard.state(0));
                 yard.beats(1);
-                Check.same("delivered in this beat", 'd', yard.state(0));
-                Check.same("time", 2 + bodies + goal, yard.time(0));
-                Check.same("its word", Integer.MIN_VALUE, yard.word(0));
-                Check.same("it lies there", 1, yard.lying(goal, 0));
+                same("delivered in this beat", 'd', yard.state(0));
+                same("time", 2 + bodies + goal, yard.time(0));
+                same("its word", Integer.MIN_VALUE, yard.word(0));
+                same("it lies there", 1, yard.lying(goal, 0));
             }
         }
         Meshyard yard = filled(199);
-        Check.same("the last number", 199, yard.send(1, 1, 0, 4));
+        same("the last number", 199, yard.send(1, 1, 0, 4));
     }
 
     private static void promise2SendThrows() {
         Meshyard yard = new Meshyard();
         for (int node : NO_NODES) {
-            Check.raises("send from no node", NO_SUCH, yard, () -> yard.send(node, 0, 1, 9));
-            Check.raises("send to no node", NO_SUCH, yard, () -> yard.send(0, node, 1, 9));
+            raises("send from no node", NO_SUCH, yard, () -> yard.send(node, 0, 1, 9));
+            raises("send to no node", NO_SUCH, yard, () -> yard.send(0, node, 1, 9));
         }
         for (int bodies : new int[] {0, 5, -1, Integer.MIN_VALUE, Integer.MAX_VALUE}) {
-            Check.raises("send so many bodies", OFF_RANGE, yard, () -> yard.send(0, 1, 1, bodies));
+            raises("send so many bodies", OFF_RANGE, yard, () -> yard.send(0, 1, 1, bodies));
         }
         Meshyard full = filled(200);
-        Check.raises("send to a full yard", NO_ROOM, full, () -> full.send(0, 1, 1, 1));
-        Check.raises("send 5 bodies to a full yard", OFF_RANGE, full, () -> full.send(0, 1, 1, 5));
-        Check.raises("send to no node of a full yard", NO_SUCH, full, () -> full.send(0, 2, 1, 5));
+        raises("send to a full yard", NOT_NOW, full, () -> full.send(0, 1, 1, 1));
+        raises("send 5 bodies to a full yard", OFF_RANGE, full, () -> full.send(0, 1, 1, 5));
+        raises("send to no node of a full yard", NO_SUCH, full, () -> full.send(0, 2, 1, 5));
         full.beats(100);
-        Check.raises("delivered packets are counted", NO_ROOM, full, () -> full.send(0, 1, 1, 1));
+        raises("delivered packets are counted", NOT_NOW, full, () -> full.send(0, 1, 1, 1));
         full.net(2, 1);
-        Check.same("a new chip has room", 0, full.send(0, 1, 1, 1));
+        same("a new chip has room", 0, full.send(0, 1, 1, 1));
     }
 
     private static void promise3Multicast() {
         Meshyard yard = yard(3, 2);
         yard.send(5, 5, 3, 2);
-        Check.same("how many", 3, yard.multicast(2, 0b100101, -7));
-        Check.same("packets", 4, yard.packets());
+        same("how many", 3, yard.multicast(2, 0b100101, -7));
+        same("packets", 4, yard.packets());
         yard.beats(30);
         int[] goals = {0, 2, 5};
         for (int i = 0; i < 3; i++) {
-            Check.same("kind", 'm', yard.kind(i + 1));
-            Check.same("word", -7, yard.word(i + 1));
-            Check.same("lies there", i + 1, yard.receive(goals[i], 2));
+            same("kind", 'm', yard.kind(i + 1));
+            same("word", -7, yard.word(i + 1));
+            same("lies there", i + 1, yard.receive(goals[i], 2));
         }
         Meshyard alone = yard(1, 1);
-        Check.same("to itself alone", 1, alone.multicast(0, 1, 1));
+        same("to itself alone", 1, alone.multicast(0, 1, 1));
         alone.beats(3);
-        Check.same("it has 1 body", 3, alone.time(0));
+        same("it has 1 body", 3, alone.time(0));
         Meshyard wide = new Meshyard();
-        Check.same("to all", 16, wide.multicast(9, 0xFFFF, 1));
+        same("to all", 16, wide.multicast(9, 0xFFFF, 1));
 
         for (int node : NO_NODES) {
-            Check.raises("multicast from no node", NO_SUCH, wide, () -> wide.multicast(node, 0, 1));
+            raises("multicast from no node", NO_SUCH, wide, () -> wide.multicast(node, 0, 1));
         }
         for (int goals2 : new int[] {0, 64, 127, 1 << 31, -1, 1 << 16}) {
-            Check.raises("multicast to such goals", OFF_RANGE, yard, () -> yard.multicast(0, goals2, 1));
+            raises("multicast to such goals", OFF_RANGE, yard, () -> yard.multicast(0, goals2, 1));
         }
         Meshyard full = filled(198);
-        Check.same("room for two", 2, full.multicast(0, 3, 1));
+        same("room for two", 2, full.multicast(0, 3, 1));
         Meshyard nearly = filled(199);
-        Check.raises("no room for all", NO_ROOM, nearly, () -> nearly.multicast(0, 3, 1));
-        Check.raises("no room, and no goals", OFF_RANGE, nearly, () -> nearly.multicast(0, 0, 1));
-        Check.raises("no room, and no node", NO_SUCH, nearly, () -> nearly.multicast(2, 0, 1));
-        Check.same("room for one", 1, nearly.multicast(0, 2, 1));
+        raises("no room for all", NOT_NOW, nearly, () -> nearly.multicast(0, 3, 1));
+        raises("no room, and no goals", OFF_RANGE, nearly, () -> nearly.multicast(0, 0, 1));
+        raises("no room, and no node", NO_SUCH, nearly, () -> nearly.multicast(2, 0, 1));
+        same("room for one", 1, nearly.multicast(0, 2, 1));
     }
 
     private static void promise4Ask() {
         Meshyard yard = yard(3, 1);
         yard.set(2, 7, 40);
-        Check.same("its number", 0, yard.ask(0, 2, 7, false, 99));
-        Check.same("the next number", 1, yard.ask(0, 2, 7, true, 2));
+        same("its number", 0, yard.ask(0, 2, 7, false, 99));
+        same("the next number", 1, yard.ask(0, 2, 7, true, 2));
         // 2 + 1 + 2 beats for the first one, the second one waits a beat for a row that belongs to the first
         yard.beats(5);
-        Check.same("nothing is added by a plain question", 40, yard.memory(2, 7));
-        Check.same("the answer is made", 3, yard.packets());
+        same("nothing is added by a plain question", 40, yard.memory(2, 7));
+        same("the answer is made", 3, yard.packets());
         yard.beats(2);
-        Check.same("not yet added", 40, yard.memory(2, 7));
+        same("not yet added", 40, yard.memory(2, 7));
         yard.beats(1);
-        Check.same("added", 42, yard.memory(2, 7));
+        same("added", 42, yard.memory(2, 7));
         yard.beats(4);
-        Check.same("the first answer", 40, yard.word(2));
-        Check.same("the second answer has the word ahead of the sum", 40, yard.word(3));
-        Check.same("to its source", 'd', yard.state(3));
-        Check.same("the beat in which it was made is counted", 5, yard.time(2));
+        same("the first answer", 40, yard.word(2));
+        same("the second answer has the word ahead of the sum", 40, yard.word(3));
+        same("to its source", 'd', yard.state(3));
+        same("the beat in which it was made is counted", 5, yard.time(2));
 
         Meshyard own = yard(1, 1);
         own.set(0, 0, Integer.MAX_VALUE);
         own.ask(0, 0, 0, true, 1);
         own.beats(10);
-        Check.same("goes round", Integer.MIN_VALUE, own.memory(0, 0));
-        Check.same("asked of itself", 'd', own.state(1));
+        same("goes round", Integer.MIN_VALUE, own.memory(0, 0));
+        same("asked of itself", 'd', own.state(1));
     }
 
     private static void promise4AskRoom() {
         Meshyard yard = new Meshyard();
         for (int node : NO_NODES) {
-            Check.raises("ask from no node", NO_SUCH, yard, () -> yard.ask(node, 0, 8, false, 0));
-            Check.raises("ask no node", NO_SUCH, yard, () -> yard.ask(0, node, 8, false, 0));
+            raises("ask from no node", NO_SUCH, yard, () -> yard.ask(node, 0, 8, false, 0));
+            raises("ask no node", NO_SUCH, yard, () -> yard.ask(0, node, 8, false, 0));
         }
         for (int place : new int[] {-1, 8, Integer.MIN_VALUE, Integer.MAX_VALUE}) {
-            Check.raises("ask for such a place", OFF_RANGE, yard, () -> yard.ask(0, 1, place, false, 0));
+            raises("ask for such a place", OFF_RANGE, yard, () -> yard.ask(0, 1, place, false, 0));
         }
         Meshyard tight = filled(199);
-        Check.raises("no room for the answer", NO_ROOM, tight, () -> tight.ask(0, 1, 0, false, 0));
-        Check.raises("no room, and no place", OFF_RANGE, tight, () -> tight.ask(0, 1, 8, false, 0));
-        Check.raises("no room, and no node", NO_SUCH, tight, () -> tight.ask(0, 2, 8, false, 0));
+        raises("no room for the answer", NOT_NOW, tight, () -> tight.ask(0, 1, 0, false, 0));
+        raises("no room, and no place", OFF_RANGE, tight, () -> tight.ask(0, 1, 8, false, 0));
+        raises("no room, and no node", NO_SUCH, tight, () -> tight.ask(0, 2, 8, false, 0));
 
         Meshyard last = filled(198);
-        Check.same("room for both", 198, last.ask(1, 0, 0, false, 0));
-        Check.raises("the room of the answer is kept from the start", NO_ROOM, last, () -> last.send(0, 1, 1, 1));
+        same("room for both", 198, last.ask(1, 0, 0, false, 0));
+        raises("the room of the answer is kept from the start", NOT_NOW, last, () -> last.send(0, 1, 1, 1));
         last.beats(4);
-        Check.same("answered", 199, last.answer(198));
-        Check.same("all are made", 200, last.packets());
-        Check.raises("full", NO_ROOM, last, () -> last.send(0, 1, 1, 1));
+        same("answered", 199, last.answer(198));
+        same("all are made", 200, last.packets());
+        raises("full", NOT_NOW, last, () -> last.send(0, 1, 1, 1));
 
         Meshyard lost = filled(198);
         lost.ask(1, 0, 0, false, 0);
         lost.fail(0, 'e', true);
         lost.beats(2);
-        Check.same("the question is lost", 'l', lost.state(198));
-        Check.same("its answer's room is free again", 199, lost.send(0, 1, 1, 1));
-        Check.raises("full", NO_ROOM, lost, () -> lost.send(0, 1, 1, 1));
+        same("the question is lost", 'l', lost.state(198));
+        same("its answer's room is free again", 199, lost.send(0, 1, 1, 1));
+        raises("full", NOT_NOW, lost, () -> lost.send(0, 1, 1, 1));
     }
 
     private static void promise5Answer() {
@@ -208,19 +176,19 @@ public final class PacketTests {
         yard.send(0, 0, 1, 1);
         yard.ask(0, 1, 0, false, 0);
         yard.ask(0, 1, 1, false, 0);
-        Check.raises("it was not delivered", NONE, yard, () -> yard.answer(1));
-        Check.raises("a message", OFF_RANGE, yard, () -> yard.answer(0));
+        raises("it was not delivered", NONE, yard, () -> yard.answer(1));
+        raises("a message", OFF_RANGE, yard, () -> yard.answer(0));
         yard.beats(20);
-        Check.same("the answer", 3, yard.answer(1));
-        Check.same("the next answer", 4, yard.answer(2));
-        Check.raises("an answer", OFF_RANGE, yard, () -> yard.answer(3));
-        Check.raises("no packet", NO_SUCH, yard, () -> yard.answer(5));
+        same("the answer", 3, yard.answer(1));
+        same("the next answer", 4, yard.answer(2));
+        raises("an answer", OFF_RANGE, yard, () -> yard.answer(3));
+        raises("no packet", NO_SUCH, yard, () -> yard.answer(5));
 
         Meshyard lost = yard(2, 1);
         lost.fail(0, 'e', true);
         lost.ask(0, 1, 0, false, 0);
         lost.beats(5);
-        Check.raises("a lost question", NONE, lost, () -> lost.answer(0));
+        raises("a lost question", NONE, lost, () -> lost.answer(0));
     }
 
     private static void promise6Kind() {
@@ -228,37 +196,37 @@ public final class PacketTests {
         yard.ask(0, 1, 0, false, 0);
         yard.send(0, 1, 1, 1);
         yard.beats(20);
-        Check.same("a question", 'q', yard.kind(0));
-        Check.same("a message", 'm', yard.kind(1));
-        Check.same("an answer", 'a', yard.kind(2));
+        same("a question", 'q', yard.kind(0));
+        same("a message", 'm', yard.kind(1));
+        same("an answer", 'a', yard.kind(2));
     }
 
     private static void promise7State() {
         Meshyard yard = yard(2, 1);
         yard.send(0, 1, 1, 1);
         yard.send(0, 1, 1, 1);
-        Check.same("waits at its source", 's', yard.state(0));
+        same("waits at its source", 's', yard.state(0));
         yard.beats(1);
-        Check.same("its head is in a row", 'w', yard.state(0));
-        Check.same("the next one still waits", 's', yard.state(1));
+        same("its head is in a row", 'w', yard.state(0));
+        same("the next one still waits", 's', yard.state(1));
         yard.beats(2);
-        Check.same("the next one is on the way", 'w', yard.state(1));
+        same("the next one is on the way", 'w', yard.state(1));
         yard.beats(1);
-        Check.same("delivered", 'd', yard.state(0));
+        same("delivered", 'd', yard.state(0));
         yard.receive(1, 0);
-        Check.same("received", 'r', yard.state(0));
+        same("received", 'r', yard.state(0));
         yard.ask(0, 1, 0, false, 0);
         yard.beats(20);
-        Check.same("a question stays delivered", 'd', yard.state(2));
-        Check.same("an answer stays delivered", 'd', yard.state(3));
+        same("a question stays delivered", 'd', yard.state(2));
+        same("an answer stays delivered", 'd', yard.state(3));
         yard.fail(1, 'w', true);
         yard.send(1, 0, 1, 4);
         yard.beats(1);
-        Check.same("not looked at yet", 'w', yard.state(4));
+        same("not looked at yet", 'w', yard.state(4));
         yard.beats(1);
-        Check.same("lost", 'l', yard.state(4));
+        same("lost", 'l', yard.state(4));
         yard.beats(9);
-        Check.same("lost for good", 'l', yard.state(4));
+        same("lost for good", 'l', yard.state(4));
     }
 
     private static void promise8Word() {
@@ -266,30 +234,30 @@ public final class PacketTests {
         yard.set(1, 2, 77);
         yard.send(0, 1, -5, 3);
         yard.ask(0, 1, 2, true, 9);
-        Check.same("of a message", -5, yard.word(0));
-        Check.same("of a question", 0, yard.word(1));
+        same("of a message", -5, yard.word(0));
+        same("of a question", 0, yard.word(1));
         yard.beats(20);
-        Check.same("of a question, delivered", 0, yard.word(1));
-        Check.same("of an answer", 77, yard.word(2));
+        same("of a question, delivered", 0, yard.word(1));
+        same("of an answer", 77, yard.word(2));
     }
 
     private static void promise9Head() {
         Meshyard yard = yard(3, 1);
         yard.send(0, 2, 1, 4);
-        Check.raises("at its source", NONE, yard, () -> yard.head(0));
+        raises("at its source", NONE, yard, () -> yard.head(0));
         for (int beat = 1; beat <= 3; beat++) {
             yard.beats(1);
-            Check.same("a step a beat", beat - 1, yard.head(0));
+            same("a step a beat", beat - 1, yard.head(0));
         }
         yard.beats(1);
-        Check.raises("taken by the core, its bodies not", NONE, yard, () -> yard.head(0));
-        Check.same("its bodies are on the way", 'w', yard.state(0));
+        raises("taken by the core, its bodies not", NONE, yard, () -> yard.head(0));
+        same("its bodies are on the way", 'w', yard.state(0));
         yard.fail(1, 'w', true);
         yard.send(1, 0, 1, 4);
         yard.beats(1);
-        Check.same("at its router", 1, yard.head(1));
+        same("at its router", 1, yard.head(1));
         yard.beats(1);
-        Check.raises("lost", NONE, yard, () -> yard.head(1));
+        raises("lost", NONE, yard, () -> yard.head(1));
     }
 
     private static void promise10Pieces() {
@@ -297,33 +265,33 @@ public final class PacketTests {
         yard.send(0, 2, 1, 4);
         int[] due = {0, 1, 2, 3, 3, 3, 2, 1, 0};
         for (int beat = 0; beat < due.length; beat++) {
-            Check.same("pieces in rows after beat " + beat, due[beat], yard.pieces(0));
+            same("pieces in rows after beat " + beat, due[beat], yard.pieces(0));
             yard.beats(1);
         }
         yard.fail(1, 'e', true);
         yard.send(0, 2, 1, 4);
         yard.beats(2);
-        Check.same("two are in rows", 2, yard.pieces(1));
+        same("two are in rows", 2, yard.pieces(1));
         yard.beats(1);
-        Check.same("none of a lost one", 0, yard.pieces(1));
-        Check.same("its rows are empty", 0, yard.row(0, 'c', 0) + yard.row(1, 'w', 0));
+        same("none of a lost one", 0, yard.pieces(1));
+        same("its rows are empty", 0, yard.row(0, 'c', 0) + yard.row(1, 'w', 0));
     }
 
     private static void promise11Time() {
         Meshyard yard = yard(2, 1);
         yard.beats(7);
         yard.send(0, 1, 1, 1);
-        Check.raises("not delivered yet", NONE, yard, () -> yard.time(0));
+        raises("not delivered yet", NONE, yard, () -> yard.time(0));
         yard.beats(3);
-        Check.raises("on the way", NONE, yard, () -> yard.time(0));
+        raises("on the way", NONE, yard, () -> yard.time(0));
         yard.beats(10);
-        Check.same("of its own, whatever passed before and behind", 4, yard.time(0));
+        same("of its own, whatever passed before and behind", 4, yard.time(0));
         yard.receive(1, 0);
-        Check.same("received, too", 4, yard.time(0));
+        same("received, too", 4, yard.time(0));
         yard.fail(0, 'e', true);
         yard.send(0, 1, 1, 1);
         yard.beats(9);
-        Check.raises("lost", NONE, yard, () -> yard.time(1));
+        raises("lost", NONE, yard, () -> yard.time(1));
 
         Meshyard busy = yard(1, 1);
         busy.program(0, 'p', 6);
@@ -331,7 +299,7 @@ public final class PacketTests {
         busy.start(0);
         busy.beats(6);
         // made in the beat 2, its head put in there, its tail taken in the beat 4: 4 less 1
-        Check.same("of a message that a core sends in a beat", 3, busy.time(0));
+        same("of a message that a core sends in a beat", 3, busy.time(0));
     }
 
     private static void promise12Packets() {
@@ -339,9 +307,9 @@ public final class PacketTests {
         yard.send(0, 1, 1, 1);
         yard.multicast(1, 3, 1);
         yard.ask(0, 1, 1, false, 0);
-        Check.same("made", 4, yard.packets());
+        same("made", 4, yard.packets());
         yard.beats(50);
-        Check.same("with the answer", 5, yard.packets());
+        same("with the answer", 5, yard.packets());
     }
 
     private static void promise13Lying() {
@@ -350,17 +318,17 @@ public final class PacketTests {
         yard.send(0, 3, 2, 1);
         yard.send(1, 3, 3, 1);
         yard.ask(0, 3, 3, false, 0);
-        Check.same("on the way", 0, yard.lying(3, 0));
+        same("on the way", 0, yard.lying(3, 0));
         yard.beats(40);
-        Check.same("two of 0", 2, yard.lying(3, 0));
-        Check.same("one of 1", 1, yard.lying(3, 1));
-        Check.same("none of 2", 0, yard.lying(3, 2));
-        Check.same("answers do not lie", 0, yard.lying(0, 3));
+        same("two of 0", 2, yard.lying(3, 0));
+        same("one of 1", 1, yard.lying(3, 1));
+        same("none of 2", 0, yard.lying(3, 2));
+        same("answers do not lie", 0, yard.lying(0, 3));
         yard.receive(3, 0);
-        Check.same("one is received", 1, yard.lying(3, 0));
+        same("one is received", 1, yard.lying(3, 0));
         for (int node : new int[] {-1, 4, Integer.MAX_VALUE}) {
-            Check.raises("at no node", NO_SUCH, yard, () -> yard.lying(node, 0));
-            Check.raises("of no node", NO_SUCH, yard, () -> yard.lying(0, node));
+            raises("at no node", NO_SUCH, yard, () -> yard.lying(node, 0));
+            raises("of no node", NO_SUCH, yard, () -> yard.lying(0, node));
         }
     }
 
@@ -369,21 +337,21 @@ public final class PacketTests {
         for (int i = 0; i < 4; i++) {
             yard.send(i % 2, 1, i, 1);
         }
-        Check.raises("none yet", NONE, yard, () -> yard.receive(1, 0));
+        raises("none yet", NONE, yard, () -> yard.receive(1, 0));
         yard.beats(30);
-        Check.same("the first of 1", 1, yard.receive(1, 1));
-        Check.same("the first of 0", 0, yard.receive(1, 0));
-        Check.same("the second of 0", 2, yard.receive(1, 0));
-        Check.raises("no more of 0", NONE, yard, () -> yard.receive(1, 0));
-        Check.same("the second of 1", 3, yard.receive(1, 1));
-        Check.raises("none at 0", NONE, yard, () -> yard.receive(0, 1));
+        same("the first of 1", 1, yard.receive(1, 1));
+        same("the first of 0", 0, yard.receive(1, 0));
+        same("the second of 0", 2, yard.receive(1, 0));
+        raises("no more of 0", NONE, yard, () -> yard.receive(1, 0));
+        same("the second of 1", 3, yard.receive(1, 1));
+        raises("none at 0", NONE, yard, () -> yard.receive(0, 1));
         yard.ask(0, 1, 0, false, 0);
         yard.beats(30);
-        Check.raises("a question is not received", NONE, yard, () -> yard.receive(1, 0));
-        Check.raises("an answer is not received", NONE, yard, () -> yard.receive(0, 1));
+        raises("a question is not received", NONE, yard, () -> yard.receive(1, 0));
+        raises("an answer is not received", NONE, yard, () -> yard.receive(0, 1));
         for (int node : new int[] {-1, 2, Integer.MIN_VALUE}) {
-            Check.raises("at no node", NO_SUCH, yard, () -> yard.receive(node, 0));
-            Check.raises("of no node", NO_SUCH, yard, () -> yard.receive(0, node));
+            raises("at no node", NO_SUCH, yard, () -> yard.receive(node, 0));
+            raises("of no node", NO_SUCH, yard, () -> yard.receive(0, node));
         }
         overtaking();
     }
@@ -397,23 +365,23 @@ public final class PacketTests {
         yard.send(0, 3, 8, 1);
         yard.send(0, 3, 9, 1);
         yard.beats(40);
-        Check.same("the lower number is there later", 12, yard.time(1));
-        Check.same("the higher number is there first", 8, yard.time(2));
-        Check.same("and is received first", 2, yard.receive(3, 0));
-        Check.same("and the other behind it", 1, yard.receive(3, 0));
+        same("the lower number is there later", 12, yard.time(1));
+        same("the higher number is there first", 8, yard.time(2));
+        same("and is received first", 2, yard.receive(3, 0));
+        same("and the other behind it", 1, yard.receive(3, 0));
     }
 
     private static void noSuchPacket() {
         Meshyard yard = yard(2, 1);
         yard.send(0, 1, 1, 1);
         for (int packet : new int[] {-1, 1, 200, Integer.MIN_VALUE, Integer.MAX_VALUE}) {
-            Check.raises("answer", NO_SUCH, yard, () -> yard.answer(packet));
-            Check.raises("kind", NO_SUCH, yard, () -> yard.kind(packet));
-            Check.raises("state", NO_SUCH, yard, () -> yard.state(packet));
-            Check.raises("word", NO_SUCH, yard, () -> yard.word(packet));
-            Check.raises("head", NO_SUCH, yard, () -> yard.head(packet));
-            Check.raises("pieces", NO_SUCH, yard, () -> yard.pieces(packet));
-            Check.raises("time", NO_SUCH, yard, () -> yard.time(packet));
+            raises("answer", NO_SUCH, yard, () -> yard.answer(packet));
+            raises("kind", NO_SUCH, yard, () -> yard.kind(packet));
+            raises("state", NO_SUCH, yard, () -> yard.state(packet));
+            raises("word", NO_SUCH, yard, () -> yard.word(packet));
+            raises("head", NO_SUCH, yard, () -> yard.head(packet));
+            raises("pieces", NO_SUCH, yard, () -> yard.pieces(packet));
+            raises("time", NO_SUCH, yard, () -> yard.time(packet));
         }
     }
 }
