@@ -888,7 +888,7 @@ public final class Meshyard {
 
         private boolean isFreeAhead(int node, int direction, int channel) {
             int link = node * DIRECTIONS + direction;
-            if (!net.isWhole(link)) {
+            if (net.ahead[link] == NONE || net.failed[link]) {
                 return false;
             }
             Row row = routers[net.ahead[link]].rows[channel * SIDES + net.opposite(direction)];

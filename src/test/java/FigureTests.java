@@ -72,6 +72,11 @@ public final class FigureTests extends Check {
         yard.ask(1, 0, 0, false, 0);
         yard.beats(9);
         same("a question, too", 0.5f, yard.lostShare());
+        Meshyard first = yard(2, 1);
+        first.fail(0, 'e', true);
+        first.send(0, 1, 1, 1);
+        first.beats(2);
+        same("the first one, too", 1.0f, first.lostShare());
         yard.net(1, 1);
         raises("no packets any more", NONE, yard, () -> yard.lostShare());
     }

@@ -187,6 +187,29 @@ public final class LinkTests extends Check {
         same("output e was ahead of that", 0, earlier.head(1));
         earlier.beats(1);
         same("now it goes", 1, earlier.head(1));
+        notLookedAtTwiceByTheTurn();
+    }
+
+    /** Row n gave to output e last, so row c is the first one looked at, and the others go around behind it. */
+    private static void notLookedAtTwiceByTheTurn() {
+        Meshyard yard = yard(2, 3);
+        yard.way('y');
+        yard.places(4);
+        yard.send(0, 3, 1, 1);
+        yard.beats(9);
+        yard.send(2, 3, 1, 1);
+        yard.send(2, 3, 1, 1);
+        for (int beat = 0; beat < 3; beat++) {
+            yard.sleep(3);
+            yard.beats(1);
+        }
+        same("a packet and a head", 3, yard.row(2, 'c', 0));
+        yard.fail(2, 'e', true);
+        yard.beats(1);
+        same("lost", 'l', yard.state(1));
+        same("not looked at again for output e", 'w', yard.state(2));
+        yard.beats(1);
+        same("but in the next beat", 'l', yard.state(2));
     }
 
     private static void promise23Sleep() {
@@ -292,6 +315,9 @@ public final class LinkTests extends Check {
         same("its head waited", 1, yard.head(0));
         yard.beats(9);
         same("a beat more for each", 7, yard.time(0));
+        yard.sleep(1);
+        yard.beats(3);
+        same("asleep again, and not woken by what was", false, yard.isAwake(1));
         isTrue("sound", yard.isSound());
 
         Meshyard lost = yard(2, 1);

@@ -3,12 +3,15 @@ public final class NetTests extends Check {
     public static void main(String[] args) {
         promise15Net();
         promise15NetMakesAllAnew();
+        promise15NetLeavesNothing();
         promise16Beats();
         promise17Beat();
         promise19Places();
         promise19PlacesOfFullRows();
+        promise19PlacesOfEachRow();
         promise20Row();
         promise21Owner();
+        oneOfARowInABeat();
         routersByNumbers();
         rowsInTurn();
         turnBehindTheRowThatGaveLast();
@@ -79,6 +82,49 @@ public final class NetTests extends Check {
         yard.send(0, 0, 1, 1);
         yard.beats(3);
         same("numbered from 0", 'd', yard.state(0));
+    }
+
+    /** What a chip does tells whether anything was left on it. */
+    private static String busyRun(Meshyard yard) {
+        StringBuilder told = new StringBuilder();
+        for (int node = 0; node < 9; node++) {
+            yard.send(node, 8 - node, node, node % 4 + 1);
+            yard.ask(node, (node * 5 + 1) % 9, node % 8, true, node);
+            yard.send(node, (node + 1) % 9, 1, 1);
+        }
+        for (int beat = 0; beat < 40; beat++) {
+            told.append(yard.beats(1)).append(yard.checksum()).append(yard.isSound()).append(' ');
+        }
+        for (int packet = 0; packet < yard.packets(); packet++) {
+            told.append(yard.state(packet)).append(yard.word(packet));
+        }
+        return told.append(yard.lostShare()).append(yard.meanTime()).toString();
+    }
+
+    private static void promise15NetLeavesNothing() {
+        Meshyard yard = yard(3, 3);
+        String due = busyRun(yard);
+        for (int beats : new int[] {1, 5, 17, 60}) {
+            for (int node = 0; node < 9; node++) {
+                yard.fail(node / 3 * 3, 'e', beats == 17);
+                for (int place = 0; place < 8; place++) {
+                    yard.set(node, place, 9);
+                }
+            }
+            yard.multicast(0, 511, 1);
+            yard.ask(8, 0, 1, false, 0);
+            yard.beats(beats);
+            yard.places(1);
+            yard.net(3, 3);
+            same("as on a new chip", due, busyRun(yard));
+        }
+        Meshyard lost = yard(2, 1);
+        lost.fail(0, 'e', true);
+        lost.net(2, 1);
+        same("the link 0 e is whole", false, lost.fail(0, 'e', false));
+        lost.set(1, 0, 5);
+        lost.net(2, 1);
+        same("the first place", 0, lost.memory(1, 0));
     }
 
     private static void promise16Beats() {
@@ -163,6 +209,35 @@ public final class NetTests extends Check {
         isTrue("sound", yard.isSound());
     }
 
+    /** Packets cross the middle of a net of 3 by 3 towards a router that is kept asleep. */
+    private static void promise19PlacesOfEachRow() {
+        char[] from = {'e', 'w', 's', 'n'};
+        int[] source = {5, 3, 7, 1};
+        int[] goal = {3, 5, 1, 7};
+        for (int side = 0; side < 4; side++) {
+            for (int places = 1; places <= 4; places++) {
+                Meshyard yard = yard(3, 3);
+                yard.places(places);
+                yard.send(source[side], goal[side], 1, 4);
+                for (int beat = 0; beat < 12; beat++) {
+                    yard.sleep(goal[side]);
+                    yard.beats(1);
+                }
+                same("row " + from[side], places, yard.row(4, from[side], 0));
+            }
+        }
+        Meshyard answers = yard(2, 1);
+        answers.places(1);
+        answers.ask(1, 0, 0, false, 0);
+        answers.beats(4);
+        same("question delivered, its answer's head put in", 1, answers.row(0, 'c', 1));
+        for (int beat = 0; beat < 4; beat++) {
+            answers.sleep(1);
+            answers.beats(1);
+        }
+        same("one place in channel 1, too", 1, answers.row(0, 'c', 1));
+    }
+
     private static void promise20Row() {
         Meshyard yard = yard(3, 3);
         yard.send(4, 4, 1, 1);
@@ -218,6 +293,26 @@ public final class NetTests extends Check {
         for (int channel : new int[] {-1, 2, Integer.MAX_VALUE}) {
             raises("such a channel", OFF_RANGE, yard, () -> yard.owner(0, 'e', channel));
         }
+    }
+
+    /** The row of the core gives a tail to output e, and not the head behind it to output s in the same beat. */
+    private static void oneOfARowInABeat() {
+        Meshyard yard = yard(2, 2);
+        yard.places(4);
+        yard.send(0, 1, 1, 1);
+        yard.send(0, 2, 1, 1);
+        for (int beat = 0; beat < 3; beat++) {
+            yard.sleep(1);
+            yard.beats(1);
+        }
+        same("both are in row c", 3, yard.row(0, 'c', 0));
+        yard.beats(1);
+        same("the first head went", 1, yard.head(0));
+        yard.beats(1);
+        same("the first tail went", 2, yard.row(0, 'c', 0));
+        same("the second head did not", 0, yard.head(1));
+        yard.beats(1);
+        same("now it did", 2, yard.head(1));
     }
 
     /** With one place a row towards higher numbers is still full as the router ahead of it is looked at. */

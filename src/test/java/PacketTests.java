@@ -162,13 +162,64 @@ public final class PacketTests extends Check {
         same("all are made", 200, last.packets());
         raises("full", NOT_NOW, last, () -> last.send(0, 1, 1, 1));
 
-        Meshyard lost = filled(198);
+        Meshyard lost = yard(2, 1);
+        lost.multicast(0, 1, 1);
+        while (lost.packets() < 198) {
+            lost.send(0, 0, 1, 1);
+        }
         lost.ask(1, 0, 0, false, 0);
         lost.fail(0, 'e', true);
         lost.beats(2);
         same("the question is lost", 'l', lost.state(198));
         same("its answer's room is free again", 199, lost.send(0, 1, 1, 1));
         raises("full", NOT_NOW, lost, () -> lost.send(0, 1, 1, 1));
+        roomBehindQuestions();
+    }
+
+    /** A question that was answered takes two places, a lost one takes one, and a lost message no less than one. */
+    private static void roomBehindQuestions() {
+        Meshyard yard = yard(2, 1);
+        for (int i = 0; i < 5; i++) {
+            yard.ask(0, 1, 0, false, 0);
+        }
+        yard.beats(60);
+        same("five are answered", 10, yard.packets());
+        yard.fail(0, 'e', true);
+        yard.ask(0, 1, 0, false, 0);
+        yard.send(0, 1, 0, 1);
+        yard.send(0, 1, 0, 1);
+        yard.beats(10);
+        same("three are lost", 3.0f / 13.0f, yard.lostShare());
+        for (int packet = 13; packet < 200; packet++) {
+            same("room", packet, yard.send(1, 1, 0, 1));
+        }
+        raises("full", NOT_NOW, yard, () -> yard.send(1, 1, 0, 1));
+        Meshyard anew = yard(2, 1);
+        anew.ask(0, 1, 0, false, 0);
+        anew.net(2, 1);
+        for (int packet = 0; packet < 200; packet++) {
+            same("room on a new chip", packet, anew.send(1, 1, 0, 1));
+        }
+        raises("full", NOT_NOW, anew, () -> anew.send(1, 1, 0, 1));
+        callsOnAFullYard(anew);
+    }
+
+    private static void callsOnAFullYard(Meshyard yard) {
+        yard.beats(100);
+        yard.fail(0, 'e', true);
+        same("the last one", 's', yard.state(199));
+        same("none of 0", 0, yard.lying(1, 0));
+        raises("none of 0", NONE, yard, () -> yard.receive(1, 0));
+        same("the first of 1", 0, yard.receive(1, 1));
+        same("none lost", 0.0f, yard.lostShare());
+        isTrue("some delivered", yard.meanTime() > 3.0);
+        isTrue("sound", yard.isSound());
+        yard.beats(100);
+        yard.beats(100);
+        yard.beats(100);
+        same("the tail of the last one is put in as the beat 400 ends", 'w', yard.state(199));
+        yard.beats(1);
+        same("and taken in the next one", 401, yard.time(199));
     }
 
     private static void promise5Answer() {

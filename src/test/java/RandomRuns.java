@@ -11,6 +11,9 @@ public final class RandomRuns {
     private final Meshyard yard = new Meshyard();
     private final PlainYard plain = new PlainYard();
     private final int temper;
+    private final boolean isCrowded;
+    private final boolean isSmall;
+    private final boolean isCoded;
     private int nodes = 16;
     private final StringBuilder story = new StringBuilder();
     private static final java.util.TreeMap<String, Integer> SEEN = new java.util.TreeMap<>();
@@ -18,6 +21,9 @@ public final class RandomRuns {
     private RandomRuns(long seed) {
         random = new Random(seed);
         temper = random.nextInt(4);
+        isCrowded = random.nextInt(4) == 0;
+        isSmall = random.nextInt(3) == 0;
+        isCoded = random.nextInt(3) == 0;
     }
 
     public static void main(String[] args) {
@@ -45,8 +51,8 @@ public final class RandomRuns {
     }
 
     private String go() {
-        for (int i = 0; i < 511; i++) {
-            String fault = random.nextInt(100) < 35 ? act() : look();
+        for (int i = 0; i < 512; i++) {
+            String fault = i == 0 && isSmall ? smallNet() : random.nextInt(100) < (isCrowded ? 70 : 35) ? act() : look();
             if (fault != null) {
                 return "call " + i + ", " + fault;
             }
@@ -106,12 +112,19 @@ public final class RandomRuns {
     }
 
     private String act() {
+        int many = random.nextInt(100);
+        if (isCrowded && many < 60) {
+            return many < 25 ? send() : many < 40 ? multicast() : many < 55 ? ask() : beats();
+        }
+        if (isCoded && many < 50) {
+            return many < 35 ? program() : start();
+        }
         switch (random.nextInt(26)) {
             case 0: case 1: case 2: return send();
             case 3: return multicast();
             case 4: case 5: return ask();
             case 6: return receive();
-            case 7: return random.nextInt(6) == 0 ? net() : beats();
+            case 7: return random.nextInt(isCrowded ? 60 : 6) == 0 ? net() : beats();
             case 8: case 9: case 10: case 11: case 12: return beats();
             case 13: return random.nextInt(3) == 0 ? way() : beats();
             case 14: return places();
@@ -159,8 +172,14 @@ public final class RandomRuns {
     }
 
     private String net() {
-        int w = isOdd() ? odd() : 1 + random.nextInt(4);
-        int h = isOdd() ? odd() : 1 + random.nextInt(4);
+        return netOf(isOdd() ? odd() : 1 + random.nextInt(4), isOdd() ? odd() : 1 + random.nextInt(4));
+    }
+
+    private String smallNet() {
+        return netOf(1 + random.nextInt(3), 1 + random.nextInt(2));
+    }
+
+    private String netOf(int w, int h) {
         String fault = both("net(" + w + ", " + h + ")", () -> yard.net(w, h), () -> plain.net(w, h));
         nodes = plain.width * plain.height;
         return fault;
