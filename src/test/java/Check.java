@@ -40,10 +40,9 @@ abstract class Check {
         same(what, true, got);
     }
 
-    /** The call must throw just this class, not one below it, and leave the chip's checksum as it was. */
+    /** The call must throw just this class, not one below it, and leave all that the object holds as it was. */
     static void raises(String what, Class<? extends RuntimeException> due, Meshyard yard, Supplier<Object> call) {
-        long before = yard.checksum();
-        int packets = yard.packets();
+        String before = Inside.told(yard);
         Object got;
         try {
             got = call.get();
@@ -51,8 +50,7 @@ abstract class Check {
             got = e.getClass();
         }
         same(what, due, got);
-        same(what + ", packets behind it", packets, yard.packets());
-        same(what + ", checksum behind it", before, yard.checksum());
+        isTrue(what + ", nothing changed", before.equals(Inside.told(yard)));
     }
 
     static void end(String test) {

@@ -102,9 +102,9 @@ public final class NetTests extends Check {
     }
 
     private static void promise15NetLeavesNothing() {
-        Meshyard yard = yard(3, 3);
-        String due = busyRun(yard);
+        String due = busyRun(yard(3, 3));
         for (int beats : new int[] {1, 5, 17, 60}) {
+            Meshyard yard = yard(3, 3);
             for (int node = 0; node < 9; node++) {
                 yard.fail(node / 3 * 3, 'e', beats == 17);
                 for (int place = 0; place < 8; place++) {

@@ -24,24 +24,24 @@ public final class TamperTests extends Check {
         end("TamperTests");
     }
 
-    private static Object field(Object of, String name) throws ReflectiveOperationException {
+    static Object field(Object of, String name) throws ReflectiveOperationException {
         Field field = of.getClass().getDeclaredField(name);
         field.setAccessible(true);
         return field.get(of);
     }
 
-    private static void change(Object of, String name, Object to) throws ReflectiveOperationException {
+    static void change(Object of, String name, Object to) throws ReflectiveOperationException {
         Field field = of.getClass().getDeclaredField(name);
         field.setAccessible(true);
         field.set(of, to);
     }
 
-    private static Object row(Meshyard yard, int node, int side) throws ReflectiveOperationException {
+    static Object row(Meshyard yard, int node, int side) throws ReflectiveOperationException {
         return Array.get(field(Array.get(field(yard, "routers"), node), "rows"), side);
     }
 
     /** Three nodes in a line; packet 0 has its head in row w of 2, bodies in row w of 1, its tail in row c of 0. */
-    private static Meshyard onTheWay() {
+    static Meshyard onTheWay() {
         Meshyard yard = yard(3, 1);
         yard.places(4);
         yard.send(0, 2, 1, 4);
